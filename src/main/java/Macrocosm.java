@@ -522,6 +522,8 @@ public final class Macrocosm {
         final Row sort;
         final Row key;
         final Row token;
+        // The key of a name that is made by let; 0 for all others, also for parameters.
+        final Row letName;
         final Row isParameter;
         final Row parameters;
         final Row precedence;
@@ -533,6 +535,7 @@ public final class Macrocosm {
             sort = new Row(most);
             key = new Row(most);
             token = new Row(most);
+            letName = new Row(most);
             isParameter = new Row(most);
             parameters = new Row(most);
             precedence = new Row(most);
@@ -553,6 +556,7 @@ public final class Macrocosm {
             sort.put(count, newSort);
             key.put(count, newKey);
             token.put(count, where);
+            letName.put(count, newSort == NAME ? newKey : 0);
             isParameter.put(count, 0);
             parameters.put(count, 0);
             precedence.put(count, 0);
@@ -564,6 +568,7 @@ public final class Macrocosm {
         // A making's parameters are added just behind it, so that they have the numbers behind its own.
         int addParameter(int making, int newKey, int where) {
             int parameter = add(NAME, newKey, where);
+            letName.put(parameter, 0);
             isParameter.put(parameter, 1);
             parameters.put(making, parameter - making);
             return parameter;
@@ -579,11 +584,6 @@ public final class Macrocosm {
             return false;
         }
 
-        boolean isLet(int making, int name) {
-            boolean isName = making > AT_FIRST && sort.get(making) == NAME;
-            return isName && isParameter.get(making) == 0 && key.get(making) == name;
-        }
-
         private void addPlainSign(char sign, int plainPrecedence) {
             int making = add(BETWEEN, sign, -1);
             precedence.put(making, plainPrecedence);
@@ -596,8 +596,9 @@ public final class Macrocosm {
         private final Makings makings;
         private final Row entry;
         private final Row hidesOther;
-        private final Row held;
         private int size;
+        // How many different ones hold, of each sort.
+        final Row held;
 
         Scope(Makings makings, int most) {
             this.makings = makings;
@@ -621,11 +622,8 @@ public final class Macrocosm {
             return size;
         }
 
-        int find(int sort, int key) {
-            return findDownTo(0, sort, key);
-        }
-
-        int findDownTo(int mark, int sort, int key) {
+        // The newest one that holds, of those behind a mark.
+        int find(int mark, int sort, int key) {
             for (int at = size - 1; at >= mark; at--) {
                 int making = entry.get(at);
                 if (makings.sort.get(making) == sort && makings.key.get(making) == key) {
@@ -637,7 +635,7 @@ public final class Macrocosm {
 
         boolean hasLet(int name) {
             for (int at = size - 1; at >= 0; at--) {
-                if (makings.isLet(entry.get(at), name)) {
+                if (makings.letName.get(entry.get(at)) == name) {
                     return true;
                 }
             }
@@ -646,7 +644,7 @@ public final class Macrocosm {
 
         void push(int making) {
             int sort = makings.sort.get(making);
-            boolean hides = findDownTo(0, sort, makings.key.get(making)) != 0;
+            boolean hides = find(0, sort, makings.key.get(making)) != 0;
             entry.put(size, making);
             hidesOther.put(size, hides ? 1 : 0);
             if (!hides) {
@@ -949,42 +947,38 @@ public final class Macrocosm {
             tokens.readAll(text);
             startAnew();
             for (int step = 0; step < MOST_STEPS && mode != DONE; step++) {
-                readOn();
-            }
-        }
-
-        private void readOn() {
-            switch (mode) {
-                case STATEMENT:
-                    readStatement();
-                    break;
-                case LET_HEAD:
-                    readLetHead();
-                    break;
-                case SIGN_HEAD:
-                    readSignHead();
-                    break;
-                case MACRO_HEAD:
-                    readMacroHead();
-                    break;
-                case PARAMETERS:
-                    readParameters();
-                    break;
-                case FIRST_PART:
-                    readFirstPart();
-                    break;
-                case NEXT_SIGN:
-                    readNextSign();
-                    break;
-                case WHOLE:
-                    endExpression();
-                    break;
-                case PART_END:
-                    readPartEnd();
-                    break;
-                default:
-                    readStatementEnd();
-                    break;
+                switch (mode) {
+                    case STATEMENT:
+                        readStatement();
+                        break;
+                    case LET_HEAD:
+                        readLetHead();
+                        break;
+                    case SIGN_HEAD:
+                        readSignHead();
+                        break;
+                    case MACRO_HEAD:
+                        readMacroHead();
+                        break;
+                    case PARAMETERS:
+                        readParameters();
+                        break;
+                    case FIRST_PART:
+                        readFirstPart();
+                        break;
+                    case NEXT_SIGN:
+                        readNextSign();
+                        break;
+                    case WHOLE:
+                        endExpression();
+                        break;
+                    case PART_END:
+                        readPartEnd();
+                        break;
+                    default:
+                        readStatementEnd();
+                        break;
+                }
             }
         }
 
@@ -1089,7 +1083,7 @@ public final class Macrocosm {
                 fail(CANNOT_STAND, here);
                 return false;
             }
-            if (scope.findDownTo(frames.mark(), sort, key()) != 0) {
+            if (scope.find(frames.mark(), sort, key()) != 0) {
                 fail(MADE_TWICE, here);
                 return false;
             }
@@ -1210,7 +1204,7 @@ public final class Macrocosm {
         }
 
         private void readName() {
-            int making = scope.find(Makings.NAME, key());
+            int making = scope.find(0, Makings.NAME, key());
             if (making == 0) {
                 fail(MEANS_NOTHING, here);
                 return;
@@ -1221,7 +1215,7 @@ public final class Macrocosm {
         }
 
         private void readMacroUse() {
-            int making = scope.find(Makings.MACRO, key());
+            int making = scope.find(0, Makings.MACRO, key());
             if (making == 0) {
                 fail(WRONG_USE, here);
                 return;
@@ -1235,7 +1229,7 @@ public final class Macrocosm {
         }
 
         private void readSignAhead() {
-            int making = scope.find(Makings.AHEAD, key());
+            int making = scope.find(0, Makings.AHEAD, key());
             if (making == 0) {
                 fail(CANNOT_STAND, here);
                 return;
@@ -1264,7 +1258,7 @@ public final class Macrocosm {
         }
 
         private int signBetween() {
-            return kind() == Tokens.SIGN ? scope.find(Makings.BETWEEN, key()) : 0;
+            return kind() == Tokens.SIGN ? scope.find(0, Makings.BETWEEN, key()) : 0;
         }
 
         private void readNextSign() {
@@ -1319,7 +1313,7 @@ public final class Macrocosm {
             if (!caretsMeanSomething()) {
                 return;
             }
-            endUse();
+            endNode();
             int following = signBetween();
             boolean isSame = makings.precedence.get(following) == makings.precedence.get(making);
             if (isAlone && following != 0 && isSame) {
@@ -1327,7 +1321,7 @@ public final class Macrocosm {
             }
         }
 
-        private void endUse() {
+        private void endNode() {
             operand = frames.node();
             frames.pop();
             mode = NEXT_SIGN;
@@ -1353,7 +1347,7 @@ public final class Macrocosm {
             } else if (kind() == ',' || kind() == ')' && frames.partsRead() != wanted) {
                 fail(WRONG_USE, frames.mark());
             } else if (take(')') && caretsMeanSomething()) {
-                endUse();
+                endNode();
             }
         }
 
@@ -1381,7 +1375,7 @@ public final class Macrocosm {
             } else if (kind() == '}' && isInBlock) {
                 accept();
                 scope.cutTo(frames.mark());
-                endUse();
+                endNode();
             } else if (kind() == Tokens.END && !isInBlock) {
                 mode = DONE;
             } else {
@@ -1448,7 +1442,7 @@ public final class Macrocosm {
         int findLet(int from, int name) {
             int at = from;
             for (int left = count; left > 0 && at > 0; left--) {
-                if (makings.isLet(made.get(at), name)) {
+                if (makings.letName.get(made.get(at)) == name) {
                     return at;
                 }
                 at = next.get(at);
@@ -1556,7 +1550,7 @@ public final class Macrocosm {
         }
 
         long result() {
-            return results[0];
+            return results.length > 0 ? results[0] : 0;
         }
 
         boolean isTooGreat() {
