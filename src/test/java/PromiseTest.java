@@ -199,6 +199,8 @@ public final class PromiseTest {
         due("erase(0) throws", thrown(() -> x.erase(0)), OUT_OF_BOUNDS);
         due("erase(most) throws", thrown(() -> x.erase(Integer.MAX_VALUE)), OUT_OF_BOUNDS);
         due("length()", x.length(), 0);
+        x.type((char) 0);
+        due("erase(0) of a 0", x.erase(0), 0);
         Macrocosm changed = of("12+3");
         changed.value();
         changed.erase(0);
@@ -291,6 +293,10 @@ public final class PromiseTest {
         dueFault("1+let", 1, 2);
         dueFault("{let a=1}", 0, -1);
         dueFault("(let a=1)", 1, 1);
+        dueFault(repeated("(", 120), 1, 120);
+        dueFault(repeated("(", 119) + "a", 2, 119);
+        dueFault(repeated("{", 60) + repeated("}", 60), 0, -1);
+        dueFault(repeated("1+", 59) + "12", 0, -1);
     }
 
     private static void faultHeads() {
@@ -505,6 +511,7 @@ public final class PromiseTest {
         dueValue("let a=3;a*a", 9, "let va=3;(va*va)");
         dueValue("5;mac f()=1", 5, "5");
         dueValue("5;mac f()=1;", 5, "5");
+        due("value() of 120 tokens", of(repeated(";", 119) + "7").value(), 7);
         dueValue("{1;{2}}+{}", 2, "({1;{2}}+{})");
         dueValue("let a=1;{let a=a+1;a}+a", 3, "let va=1;({let vb=(va+1);vb}+va)");
         long big = 999999999L;
@@ -769,6 +776,10 @@ public final class PromiseTest {
         dueHolds("let a=1;", 8, 1, 0, 3, 0);
         dueHolds("", 0, 0, 0, 3, 0);
         dueHolds("  ", 2, 0, 0, 3, 0);
+        Macrocosm full = of(repeated(";", 109) + "let a=1;{a}");
+        due("holds(119, 0) of a full text", full.holds(119, 0), 1);
+        due("holds(120, 0) of a full text", full.holds(120, 0), 1);
+        due("made(118) of a full text", full.made(118), 113);
         due("holds(-1, 0) throws", thrown(() -> of("1").holds(-1, 0)), OUT_OF_BOUNDS);
         due("holds(2, 0) throws", thrown(() -> of("1").holds(2, 0)), OUT_OF_BOUNDS);
         due("holds(2, 4) throws", thrown(() -> of("1").holds(2, 4)), OUT_OF_BOUNDS);
