@@ -844,6 +844,7 @@ public final class Macrocosm {
         private int caretCount;
         private int here;
         private int mode;
+        // The making whose head is being read, or was last.
         private int headed;
         private int operand;
         private int fault;
