@@ -458,6 +458,11 @@ public final class PromiseTest {
         due("parts()", of(thirds + rest + "g();g();g();g();g();g();g();" + repeated("1;", 20)).parts(), 300);
         dueFault(thirds + rest + "g();g();g();g();g();g();g();" + repeated("1;", 21), 5, 0);
         dueFault(thirds + "f(f(f(f(f(1)))));a", 2, 34);
+        // Many makings that come again and again are no parts.
+        String makings = "mac b()=1;mac c()=1;mac d()=1;mac e()=1;mac g()=1;mac h()=1";
+        String many = "mac f(a)={" + repeated("a;", 15) + "a};f(f({" + makings + "}))";
+        dueFault(many, 0, -1);
+        due("parts() with many makings", of(many).parts(), 273);
         dueFault(thirds + "mac x(a)=2;x(f(f(f(f(f(1))))))", 0, -1);
         dueFault(thirds + "mac x(a)=f(f(f(f(f(1)))));2", 0, -1);
     }
