@@ -1,16 +1,5 @@
 /** Examples for each promise of the document: ordinary ones, edges, and wrong inputs. */
-public final class PromiseTest {
-    private static final int OUT_OF_BOUNDS = 1;
-    private static final int ILLEGAL_ARGUMENT = 2;
-    private static final int ILLEGAL_STATE = 3;
-
-    private static int wrong = 0;
-    private static String promise = "";
-
-    private interface Call {
-        void make();
-    }
-
+public final class PromiseTest extends Checks {
     public static void main(String[] args) {
         newObject();
         type();
@@ -45,94 +34,13 @@ public final class PromiseTest {
         holds();
         holdsInBodies();
         throwsChangeNothing();
-        System.out.println(wrong == 0 ? "all answers are as due" : wrong + " answers are not as due");
-        if (wrong != 0) {
-            System.exit(1);
-        }
-    }
-
-    private static void due(String call, long got, long want) {
-        if (got != want) {
-            wrong++;
-            System.out.println(promise + ": " + call + " answered " + got + ", due is " + want);
-        }
-    }
-
-    private static void dueText(String call, String got, String want) {
-        if (!got.equals(want)) {
-            wrong++;
-            System.out.println(promise + ": " + call + " is <<" + got + ">>, due is <<" + want + ">>");
-        }
-    }
-
-    private static int thrown(Call call) {
-        try {
-            call.make();
-            return 0;
-        } catch (IndexOutOfBoundsException e) {
-            return OUT_OF_BOUNDS;
-        } catch (IllegalArgumentException e) {
-            return ILLEGAL_ARGUMENT;
-        } catch (IllegalStateException e) {
-            return ILLEGAL_STATE;
-        }
-    }
-
-    private static Macrocosm of(String text) {
-        Macrocosm x = new Macrocosm();
-        for (int i = 0; i < text.length(); i++) {
-            x.type(text.charAt(i));
-        }
-        return x;
-    }
-
-    private static String textOf(Macrocosm x) {
-        StringBuilder text = new StringBuilder();
-        for (int i = 0; i < x.length(); i++) {
-            text.append((char) x.at(i));
-        }
-        return text.toString();
-    }
-
-    private static String expansionOf(String text) {
-        Macrocosm x = of(text);
-        if (x.fault() != 0) {
-            return "fault " + x.fault() + " at " + x.faultPlace();
-        }
-        StringBuilder expansion = new StringBuilder();
-        for (int i = 0; i < x.expanded(); i++) {
-            expansion.append((char) x.expandedAt(i));
-        }
-        return expansion.toString();
-    }
-
-    private static void dueFault(String text, int fault, int place) {
-        Macrocosm x = of(text);
-        due("fault() of " + text, x.fault(), fault);
-        due("faultPlace() of " + text, x.faultPlace(), place);
-        if (fault != 0) {
-            due("value() of " + text + " throws", thrown(() -> x.value()), ILLEGAL_STATE);
-        }
-    }
-
-    private static void dueValue(String text, long value, String expansion) {
-        Macrocosm x = of(text);
-        due("fault() of " + text, x.fault(), 0);
-        if (x.fault() == 0) {
-            due("value() of " + text, x.value(), value);
-            due("valueByText() of " + text, x.valueByText(), value);
-            dueText("the expansion of " + text, expansionOf(text), expansion);
-        }
-    }
-
-    private static String repeated(String part, int times) {
-        return new String(new char[times]).replace("\0", part);
+        tellAndExit();
     }
 
     // ---- the text
 
     private static void newObject() {
-        promise = "promise 1";
+        about = "promise 1";
         Macrocosm x = new Macrocosm();
         due("length()", x.length(), 0);
         due("fault()", x.fault(), 0);
@@ -150,7 +58,7 @@ public final class PromiseTest {
     }
 
     private static void type() {
-        promise = "promise 2";
+        about = "promise 2";
         Macrocosm x = new Macrocosm();
         for (int i = 0; i < 120; i++) {
             due("type " + i, x.type((char) (i * 547)), i + 1);
@@ -166,7 +74,7 @@ public final class PromiseTest {
     }
 
     private static void insert() {
-        promise = "promise 3";
+        about = "promise 3";
         Macrocosm x = new Macrocosm();
         due("insert(0, b)", x.insert(0, 'b'), 1);
         due("insert(0, a)", x.insert(0, 'a'), 2);
@@ -187,7 +95,7 @@ public final class PromiseTest {
     }
 
     private static void erase() {
-        promise = "promise 4";
+        about = "promise 4";
         Macrocosm x = of("abcd");
         due("erase(1)", x.erase(1), 'b');
         due("erase(2)", x.erase(2), 'd');
@@ -208,7 +116,7 @@ public final class PromiseTest {
     }
 
     private static void clear() {
-        promise = "promise 5";
+        about = "promise 5";
         Macrocosm x = of("1+");
         due("fault()", x.fault(), 1);
         due("clear()", x.clear(), 2);
@@ -219,7 +127,7 @@ public final class PromiseTest {
     }
 
     private static void length() {
-        promise = "promise 6";
+        about = "promise 6";
         Macrocosm x = of(" 1 ");
         due("length()", x.length(), 3);
         x.insert(0, '2');
@@ -229,7 +137,7 @@ public final class PromiseTest {
     }
 
     private static void at() {
-        promise = "promise 7";
+        about = "promise 7";
         Macrocosm x = of("a\n");
         due("at(0)", x.at(0), 'a');
         due("at(1)", x.at(1), 10);
@@ -242,7 +150,7 @@ public final class PromiseTest {
     // ---- faults
 
     private static void faultNoToken() {
-        promise = "promise 8, no token";
+        about = "promise 8, no token";
         dueFault("A", 1, 0);
         dueFault("1;\t", 1, 2);
         dueFault("\r", 1, 0);
@@ -260,7 +168,7 @@ public final class PromiseTest {
     }
 
     private static void faultCannotStand() {
-        promise = "promise 8, what cannot stand";
+        about = "promise 8, what cannot stand";
         dueFault(";;;", 0, -1);
         dueFault("{};{;}", 0, -1);
         dueFault(" ", 0, -1);
@@ -300,7 +208,7 @@ public final class PromiseTest {
     }
 
     private static void faultHeads() {
-        promise = "promise 8, heads of statements";
+        about = "promise 8, heads of statements";
         dueFault("let", 1, 3);
         dueFault("let 1=1", 1, 4);
         dueFault("let op=1", 1, 4);
@@ -348,7 +256,7 @@ public final class PromiseTest {
     }
 
     private static void faultMeansNothing() {
-        promise = "promise 8, what means nothing";
+        about = "promise 8, what means nothing";
         dueFault("a", 2, 0);
         dueFault("1+a", 2, 2);
         dueFault("let a=a", 2, 6);
@@ -377,7 +285,7 @@ public final class PromiseTest {
     }
 
     private static void faultMayNotFollow() {
-        promise = "promise 8, what may not follow";
+        about = "promise 8, what may not follow";
         String op = "op ! 5 n(a,b)=a-b;";
         dueFault(op + "1!2", 0, -1);
         dueFault(op + "1!2!3", 3, 21);
@@ -398,7 +306,7 @@ public final class PromiseTest {
     }
 
     private static void faultWrongUse() {
-        promise = "promise 8, wrong uses of macros";
+        about = "promise 8, wrong uses of macros";
         dueFault("f(1)", 4, 0);
         dueFault("f(A", 4, 0);
         dueFault("let f=1;f(1)", 4, 8);
@@ -425,7 +333,7 @@ public final class PromiseTest {
     }
 
     private static void faultMadeTwice() {
-        promise = "promise 8, what is made twice";
+        about = "promise 8, what is made twice";
         dueFault("let a=1;let a=2", 6, 12);
         dueFault("let a=1;let a", 6, 12);
         dueFault("let a=1;{let a=2}", 0, -1);
@@ -448,7 +356,7 @@ public final class PromiseTest {
     }
 
     private static void faultTooGreat() {
-        promise = "promise 8, what is too great";
+        about = "promise 8, what is too great";
         String thirds = "mac f(a)={a;a;a};";
         // Blocks of a power of three: f(f(f(f(1)))) has 81 numbers and 40 blocks, one more f 243 and 121.
         dueFault(thirds + "f(f(f(f(1))))", 0, -1);
@@ -485,7 +393,7 @@ public final class PromiseTest {
     }
 
     private static void faultPlace() {
-        promise = "promise 9";
+        about = "promise 9";
         dueFault("", 0, -1);
         dueFault("1 + ", 1, 4);
         dueFault("  a", 2, 2);
@@ -504,7 +412,7 @@ public final class PromiseTest {
     // ---- values
 
     private static void value() {
-        promise = "promise 10";
+        about = "promise 10";
         dueValue("1+2*3", 7, "(1+(2*3))");
         dueValue("1-2-3", -4, "((1-2)-3)");
         dueValue("(1-(2-3))", 2, "(1-(2-3))");
@@ -527,7 +435,7 @@ public final class PromiseTest {
     }
 
     private static void valueOfMakings() {
-        promise = "promise 10, makings";
+        about = "promise 10, makings";
         dueValue("op ! 4 r(a,b)=a-b;9!5!1", 5, "(9-(5-1))");
         dueValue("op ! 4 l(a,b)=a-b;9!5!1", 3, "((9-5)-1)");
         dueValue("op ! 5 r(a,b)=a-b;9-5!1", 3, "((9-5)-1)");
@@ -553,7 +461,7 @@ public final class PromiseTest {
     }
 
     private static void valueOfCarets() {
-        promise = "promise 10, names behind ^";
+        about = "promise 10, names behind ^";
         dueValue("mac f()=^a*2;let a=4;f()", 8, "let va=4;(va*2)");
         dueValue("let a=1;mac f()=^a+a;{let a=4;f()}", 5, "let va=1;{let vb=4;(vb+va)}");
         dueValue("mac f(a)=^a+a;let a=4;f(1)", 5, "let va=4;(va+1)");
@@ -567,7 +475,7 @@ public final class PromiseTest {
     }
 
     private static void valueByText() {
-        promise = "promise 11";
+        about = "promise 11";
         due("valueByText() with a fault throws", thrown(() -> of("a").valueByText()), ILLEGAL_STATE);
         Macrocosm x = of("mac f(a)={let t=a;t-1};f(f(5))*f(3)");
         due("valueByText()", x.valueByText(), 6);
@@ -581,7 +489,7 @@ public final class PromiseTest {
     }
 
     private static void parts() {
-        promise = "promise 12";
+        about = "promise 12";
         due("parts() of numbers", of("1;2;3").parts(), 3);
         due("parts() of an operator", of("1+2").parts(), 3);
         due("parts() of brackets", of("((1))").parts(), 1);
@@ -594,7 +502,7 @@ public final class PromiseTest {
     }
 
     private static void expanded() {
-        promise = "promise 13";
+        about = "promise 13";
         due("expanded()", of("1").expanded(), 1);
         due("expanded()", of(" 01 + 2 ").expanded(), 5);
         due("expanded()", of("let abc=10;abc").expanded(), 12);
@@ -603,7 +511,7 @@ public final class PromiseTest {
     }
 
     private static void expandedNames() {
-        promise = "promise 13, names";
+        about = "promise 13, names";
         String text = "mac f(a)={let x=a;let xy=x;{let z=x;xy}};mac g(a)=f(f(f(a)));g(g(1))";
         String expansion = expansionOf(text);
         due("fault()", of(text).fault(), 0);
@@ -615,7 +523,7 @@ public final class PromiseTest {
     }
 
     private static void expandedAt() {
-        promise = "promise 14";
+        about = "promise 14";
         Macrocosm x = of("let a=12;a");
         String want = "let va=12;va";
         for (int i = 0; i < want.length(); i++) {
@@ -631,7 +539,7 @@ public final class PromiseTest {
     // ---- names
 
     private static void tokens() {
-        promise = "promise 15";
+        about = "promise 15";
         due("tokens()", of("").tokens(), 0);
         due("tokens()", of(" \n").tokens(), 0);
         due("tokens()", of("let abc=12;abc+3").tokens(), 8);
@@ -648,7 +556,7 @@ public final class PromiseTest {
     }
 
     private static void made() {
-        promise = "promise 16";
+        about = "promise 16";
         Macrocosm x = of("let a=1;mac a(b)=b+a;a(a)+a");
         due("made(0), a word", x.made(0), -1);
         due("made(4), a let's name", x.made(4), 4);
@@ -679,7 +587,7 @@ public final class PromiseTest {
     }
 
     private static void uses() {
-        promise = "promise 17";
+        about = "promise 17";
         Macrocosm x = of("let a=1;mac f(b)=b+a+^a;f(a)+{let a=2;a};a");
         due("uses(4)", x.uses(4), 4);
         due("uses(19)", x.uses(19), 4);
@@ -694,16 +602,8 @@ public final class PromiseTest {
         due("uses(0) with a fault throws", thrown(() -> of("a").uses(0)), ILLEGAL_STATE);
     }
 
-    private static void dueRename(String text, int place, char letter, String want) {
-        Macrocosm x = of(text);
-        boolean done = x.rename(place, letter - 'a');
-        due("rename(" + place + ", " + letter + ") of " + text, done ? 1 : 0, want.equals(text) ? 0 : 1);
-        dueText("the text after rename(" + place + ", " + letter + ")", textOf(x), want);
-        due("fault() after it", x.fault(), 0);
-    }
-
     private static void rename() {
-        promise = "promise 18";
+        about = "promise 18";
         dueRename("let abc=1;abc+abc", 4, 'x', "let x=1;x+x");
         dueRename("let abc=1;abc+abc", 14, 'x', "let x=1;x+x");
         dueRename("let a=1;{let a=2;a}+a", 4, 'b', "let b=1;{let a=2;a}+b");
@@ -721,7 +621,7 @@ public final class PromiseTest {
     }
 
     private static void renameRefused() {
-        promise = "promise 18, what is not done";
+        about = "promise 18, what is not done";
         dueRename("let a=1;a", 4, 'a', "let a=1;a");
         dueRename("let a=1;a", 0, 'b', "let a=1;a");
         dueRename("let a=1;a", 6, 'b', "let a=1;a");
@@ -750,16 +650,8 @@ public final class PromiseTest {
         due("rename(0, 25) with a fault throws", thrown(() -> of("a").rename(0, 25)), ILLEGAL_STATE);
     }
 
-    private static void dueHolds(String text, int place, int names, int macros, int between, int ahead) {
-        Macrocosm x = of(text);
-        due("holds(" + place + ", 0) of " + text, x.holds(place, 0), names);
-        due("holds(" + place + ", 1) of " + text, x.holds(place, 1), macros);
-        due("holds(" + place + ", 2) of " + text, x.holds(place, 2), between);
-        due("holds(" + place + ", 3) of " + text, x.holds(place, 3), ahead);
-    }
-
     private static void holds() {
-        promise = "promise 19";
+        about = "promise 19";
         String text = " let a=1;{let a=2;let b=3};a ";
         dueHolds(text, 0, 0, 0, 3, 0);
         dueHolds(text, 1, 0, 0, 3, 0);
@@ -796,7 +688,7 @@ public final class PromiseTest {
     }
 
     private static void holdsInBodies() {
-        promise = "promise 19, makings";
+        about = "promise 19, makings";
         String mac = "let a=1;mac f(a,b)=a+b;f(1,2)";
         dueHolds(mac, 14, 1, 0, 3, 0);
         dueHolds(mac, 16, 1, 0, 3, 0);
@@ -822,7 +714,7 @@ public final class PromiseTest {
     }
 
     private static void throwsChangeNothing() {
-        promise = "calls that throw";
+        about = "calls that throw";
         Macrocosm x = of("let a=1;a");
         thrown(() -> x.insert(99, '1'));
         thrown(() -> x.erase(99));
