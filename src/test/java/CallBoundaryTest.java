@@ -766,6 +766,18 @@ public final class CallBoundaryTest extends Checks {
         due("valueByText()", x.valueByText(), 10);
         due("uses(12)", x.uses(12), 2);
         x.clear();
+        write(x, "let a=1;1+a");
+        due("uses(4)", x.uses(4), 2);
+        x.clear();
+        write(x, "let a=1;a;");
+        due("uses(4) of a shorter text", x.uses(4), 2);
+        x.clear();
+        write(x, "mac f()=^a;let a=1;f()");
+        due("value()", x.value(), 1);
+        x.clear();
+        write(x, "mac f()=2;f()");
+        due("value() without a name behind ^", x.fault() == 0 ? x.value() : -1, 2);
+        x.clear();
         String numbers = repeated("1;", 25);
         write(x, numbers);
         for (int place = 0; place <= numbers.length(); place++) {
