@@ -384,6 +384,7 @@ public final class Macrocosm {
         private static final int MOST_DIGITS = 9;
         private static final String SIGNS = "+-*!#$%&?@~|:<>./";
         private static final String OTHER_MARKS = "=;,(){}^";
+        private static final int GREATEST_MARK = '~';
 
         // A mark that is no sign is of the kind of its character's number. The key is the value of a
         // number, the character of a sign, and for a name a number that no other name has.
@@ -453,13 +454,18 @@ public final class Macrocosm {
                 readName(text, place);
             } else if (Sheet.isDigit(character)) {
                 readNumber(text, place);
-            } else if (SIGNS.indexOf((char) character) >= 0) {
+            } else if (isAmong(SIGNS, character)) {
                 put(SIGN, character, place);
-            } else if (OTHER_MARKS.indexOf((char) character) >= 0) {
+            } else if (isAmong(OTHER_MARKS, character)) {
                 put(character, 0, place);
             } else {
                 put(STRAY, 0, place);
             }
+        }
+
+        // A String holds characters up to 255 alone, so that a greater one is not looked for in it.
+        private boolean isAmong(String marks, int character) {
+            return character >= 0 && character <= GREATEST_MARK && marks.indexOf((char) character) >= 0;
         }
 
         private void readName(Sheet text, int place) {
